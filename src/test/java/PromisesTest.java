@@ -172,6 +172,21 @@ final class PromisesTest {
         is("3 held", 999999, y.wallIs(v, 5));
         is("3 held reads", 1, y.wallIs(v, 4));
         is("3 held stuck", 23, y.wallIs(v, 6));
+        LetterWalls z = new LetterWalls();
+        for (int sort = 0; sort < 5; sort++) {
+            z.word(sort, 7);
+        }
+        int[] full = new int[24];
+        java.util.Arrays.fill(full, 7);
+        int corner = Due.wall(z, 31, full);
+        Due.wall(z, 0, full);
+        is("3 48 letters", 48, z.wallIs(corner, 3));
+        is("3 48 letters read", 1, z.wallIs(corner, 4));
+        is("3 one of 12 clauses has a not", 12, z.wallIs(corner, 5));
+        is("3 48 letters stuck", 48, z.wallIs(corner, 6));
+        is("15 48 words", 48, z.says(corner, -1));
+        is("15 the last clause has no not, the first has", 2, z.says(corner, 2));
+        is("20 48 letters", 0, z.mends(corner));
     }
 
     private static void promise3Stuck() {
@@ -714,6 +729,10 @@ final class PromisesTest {
         is("27 what below", BEYOND, x.builds(1, -1));
         is("27 what above", BEYOND, x.builds(1, 2));
         is("27 by 1", 0, x.builds(1, 1));
+        Due.word(x, 3, 26);
+        x.heap(26, 1);
+        x.heap(4, 0);
+        is("27 the last letter", 0x627, x.builds(3, 1));
         LetterWalls y = new LetterWalls();
         Due.word(y, 2, 3);
         Due.word(y, 3, 4, 4);
