@@ -182,10 +182,10 @@ final class PromisesTest {
         Due.wall(z, 0, full);
         is("3 48 letters", 48, z.wallIs(corner, 3));
         is("3 48 letters read", 1, z.wallIs(corner, 4));
-        is("3 one of 12 clauses has a not", 12, z.wallIs(corner, 5));
+        is("3 11 and 1, 6 and 5, 1 and 9 clauses", 12 + 462 + 10, z.wallIs(corner, 5));
         is("3 48 letters stuck", 48, z.wallIs(corner, 6));
         is("15 48 words", 48, z.says(corner, -1));
-        is("15 the last clause has no not, the first has", 2, z.says(corner, 2));
+        is("15 the first clause has a not", 2, z.says(corner, 2));
         is("20 48 letters", 0, z.mends(corner));
     }
 
