@@ -48,7 +48,6 @@ public final class LetterWalls {
 
     private static final int USES = 2;
     private static final int TURNS = 0;
-    private static final int PRICE = 1;
     private static final String TURNS_NAMES = "linm";
     private static final String PRICE_NAMES = "lsh";
     private static final int NAMES_MOST = 4;

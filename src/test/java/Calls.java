@@ -1,5 +1,12 @@
 /** One call of LetterWalls by name. */
 final class Calls {
+    static final String[] NAMES = {
+        "wall", "wallIs", "as", "set", "brick", "brickOf", "readAs", "word", "letter", "wordIs", "feed", "text",
+        "untell", "says", "doors", "spare", "others", "steps", "mends", "wish", "heap", "price", "have", "lay",
+        "falls", "builds", "years", "seed", "voice", "body", "sheet", "put", "move", "bricks", "image", "restore",
+        "tell", "check", "count", "told",
+    };
+
     private Calls() {
     }
 

@@ -2,12 +2,6 @@ import java.util.Random;
 
 /** Any arguments in any state: no call throws, and the same calls give the same answers. */
 final class NeverThrowsTest {
-    private static final String[] NAMES = {
-        "wall", "wallIs", "as", "set", "brick", "brickOf", "readAs", "word", "letter", "wordIs", "feed", "text",
-        "untell", "says", "doors", "spare", "others", "steps", "mends", "wish", "heap", "price", "have", "lay",
-        "falls", "builds", "years", "seed", "voice", "body", "sheet", "put", "move", "bricks", "image", "restore",
-        "tell", "check", "count", "told",
-    };
     private static final long[] EDGES = {
         Integer.MIN_VALUE, Integer.MIN_VALUE + 1, -1000000, -2, -1, 0, 1, 2, 3, 5, 6, 7, 8, 12, 16, 24, 26, 27, 32,
         48, 60, 69, 99, 255, 65535, Integer.MAX_VALUE - 1, Integer.MAX_VALUE, Long.MIN_VALUE, Long.MAX_VALUE,
@@ -28,7 +22,7 @@ final class NeverThrowsTest {
         for (int i = 0; i < 512; i++) {
             boolean fillsUp = random.nextInt(4) == 0;
             String name = fillsUp ? new String[] {"wall", "word", "letter", "feed", "bricks"}[random.nextInt(5)]
-                : NAMES[random.nextInt(NAMES.length)];
+                : Calls.NAMES[random.nextInt(Calls.NAMES.length)];
             long[] a = new long[5];
             for (int j = 0; j < a.length; j++) {
                 a[j] = random.nextInt(3) == 0 ? EDGES[random.nextInt(EDGES.length)]

@@ -12,25 +12,12 @@ final class PromisesTest {
         DUE.is(call, want, got);
     }
 
-    /** WHO 1, MAY 2, NOT 3, DOES 4, AND 5: each WORD one LETTER, the WORD's number less one. */
     private static LetterWalls plain() {
-        LetterWalls x = new LetterWalls();
-        for (int sort = 0; sort < 5; sort++) {
-            x.word(sort, sort + 1);
-        }
-        return x;
-    }
-
-    private static String row(LetterWalls x, int wall) {
-        StringBuilder out = new StringBuilder();
-        for (int i = 0; i < x.wallIs(wall, 3); i++) {
-            out.append(x.readAs(wall, i)).append(' ');
-        }
-        return out.toString();
+        return Due.plain();
     }
 
     private static void rowIs(String what, String want, LetterWalls x, int wall) {
-        is(what + " " + row(x, wall) + "for " + want, 1, row(x, wall).equals(want) ? 1 : 0);
+        DUE.rowIs(what, want, x, wall);
     }
 
     public static void main(String[] args) {
@@ -166,9 +153,7 @@ final class PromisesTest {
         for (int i = 0; i < 12; i++) {
             y.word(new int[] {0, 1, 3, 4}[i % 4], 7);
         }
-        int[] bricks = new int[23];
-        java.util.Arrays.fill(bricks, 7);
-        int v = Due.wall(y, 0, bricks);
+        int v = Due.wallOf(y, 0, 23, 7);
         is("3 held", 999999, y.wallIs(v, 5));
         is("3 held reads", 1, y.wallIs(v, 4));
         is("3 held stuck", 23, y.wallIs(v, 6));
@@ -176,10 +161,8 @@ final class PromisesTest {
         for (int sort = 0; sort < 5; sort++) {
             z.word(sort, 7);
         }
-        int[] full = new int[24];
-        java.util.Arrays.fill(full, 7);
-        int corner = Due.wall(z, 31, full);
-        Due.wall(z, 0, full);
+        int corner = Due.wallOf(z, 31, 24, 7);
+        Due.wallOf(z, 0, 24, 7);
         is("3 48 letters", 48, z.wallIs(corner, 3));
         is("3 48 letters read", 1, z.wallIs(corner, 4));
         is("3 11 and 1, 6 and 5, 1 and 9 clauses", 12 + 462 + 10, z.wallIs(corner, 5));
