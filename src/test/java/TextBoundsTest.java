@@ -96,6 +96,9 @@ final class TextBoundsTest {
         x = taped("1+".repeat(29) + "77");
         is("a TEXT of 60 bytes", 1, x.text(PRICE));
         is("the last counts", 106, x.price(1));
+        x = taped("!0" + "+1".repeat(29));
+        is("each of 60 bytes a sign", 1, x.text(PRICE));
+        is("each of them counts", 30, x.price(1));
         is("the last is a FAULT", -69, taped("1+".repeat(29) + "7l").text(PRICE));
         is("60 bytes end too early", -70, taped("1+".repeat(30)).text(PRICE));
     }
